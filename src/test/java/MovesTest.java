@@ -1,0 +1,214 @@
+/** Promises 11 (move), 12 (callOff) and 22 (moves), and how keys are copied. */
+public final class MovesTest {
+    public static void main(String[] args) {
+        promise11Move();
+        promise11WhatIsLeftAddsUp();
+        promise11NothingNeedsNone();
+        promise11RoomOfTheOther();
+        promise11CutOverAtOnce();
+        promise11Refusals();
+        promise12CallOff();
+        promise12Refusals();
+        promise22Moves();
+        Due.end();
+    }
+
+    private static ShardHarbour withMachines() {
+        ShardHarbour x = new ShardHarbour();
+        x.machine(1000);
+        x.machine(1000);
+        x.machine(150);
+        return x;
+    }
+
+    private static ShardHarbour withKeys() {
+        ShardHarbour x = withMachines();
+        x.write(0, 0, 30);
+        x.write(5, 1, 30);
+        x.write(999, 0, 100);
+        return x;
+    }
+
+    private static void promise11Move() {
+        ShardHarbour x = withKeys();
+        Due.is("move(0, 1)", x.move(0, 1), 160);
+        Due.is("the target", x.shard(0, 3), 1);
+        Due.is("it is where it was", x.shard(0, 2), 0);
+        Due.is("nothing is copied at once", x.shard(0, 5), 0);
+        x.pass(1);
+        Due.is("30 of 50", x.shard(0, 5), 30);
+        x.pass(1);
+        Due.is("30 of 20 and 50", x.shard(0, 5), 60);
+        x.pass(1);
+        Due.is("90 are not enough", x.shard(0, 5), 60);
+        Due.is("still where it was", x.shard(0, 2), 0);
+        x.pass(1);
+        Due.is("140 are", x.shard(0, 2), 1);
+        Due.is("it does not move", x.shard(0, 3), ShardHarbour.NONE);
+        Due.is("0 holds nothing", x.machineOf(0, 0), 0);
+        Due.is("1 holds all", x.machineOf(1, 0), 160);
+        Due.is("and back", x.move(0, 0), 160);
+        x.pass(3);
+        Due.is("nothing is left of the move before", x.shard(0, 5), 60);
+        x.pass(1);
+        Due.is("back", x.shard(0, 2), 0);
+    }
+
+    private static void promise11WhatIsLeftAddsUp() {
+        ShardHarbour x = withMachines();
+        x.write(10, 0, 100);
+        x.write(11, 0, 50);
+        x.write(12, 0, 1);
+        x.move(0, 1);
+        x.pass(2);
+        Due.is("100 of 100", x.shard(0, 5), 100);
+        x.pass(1);
+        Due.is("50 of 50", x.shard(0, 5), 150);
+        x.pass(1);
+        Due.is("1 of 50", x.moves(true), 1);
+    }
+
+    private static void promise11NothingNeedsNone() {
+        ShardHarbour x = withMachines();
+        Due.is("move of nothing", x.move(0, 2), 0);
+        Due.is("it copies only in an hour", x.shard(0, 2), 0);
+        x.pass(1);
+        Due.is("all in one hour", x.shard(0, 2), 2);
+        ShardHarbour y = withMachines();
+        y.write(500, 0, 50);
+        y.move(0, 1);
+        y.pass(1);
+        Due.is("50 bytes in one hour", y.shard(0, 2), 1);
+        ShardHarbour z = withMachines();
+        z.write(500, 0, 51);
+        z.write(501, 0, 1);
+        z.move(0, 1);
+        z.pass(1);
+        Due.is("51 are too much, and the others wait", z.shard(0, 5), 0);
+        z.take(500);
+        Due.is("what waited was taken away", z.shard(0, 2), 0);
+        z.pass(1);
+        Due.is("it needs none", z.shard(0, 2), 1);
+    }
+
+    private static void promise11RoomOfTheOther() {
+        ShardHarbour x = withKeys();
+        x.move(0, 2);
+        x.pass(3);
+        Due.is("60 of 160", x.machineOf(2, 0), 60);
+        x.pass(1);
+        Due.is("160 do not fit", x.moves(false), 1);
+        Due.is("it stays", x.shard(0, 2), 0);
+        Due.is("it does not move", x.shard(0, 3), ShardHarbour.NONE);
+        Due.is("nothing is there", x.machineOf(2, 0), 0);
+        x.write(0, 0, 20);
+        x.move(0, 2);
+        x.pass(4);
+        Due.is("150 fit", x.shard(0, 2), 2);
+    }
+
+    /** What the shard 0 leaves behind when it cuts over is room for the shard 1 in the same hour. */
+    private static void promise11CutOverAtOnce() {
+        ShardHarbour x = new ShardHarbour();
+        x.machine(100);
+        x.machine(100);
+        x.split(500);
+        x.write(0, 0, 50);
+        x.move(1, 1);
+        x.pass(1);
+        x.write(500, 1, 50);
+        x.write(501, 1, 1);
+        x.move(0, 1);
+        x.move(1, 0);
+        Due.is("before", x.machineOf(0, 0) + x.machineOf(1, 0), 101);
+        x.take(501);
+        x.write(1, 0, 50);
+        x.pass(1);
+        Due.is("the first one copied 50 of 100", x.shard(0, 5), 50);
+        Due.is("the second one did not fit", x.moves(false), 1);
+        x.take(1);
+        x.move(1, 0);
+        x.pass(1);
+        Due.is("the first one cut over and then the second one", x.moves(true), 3);
+        Due.is("they changed places", x.shard(0, 2) * 10 + x.shard(1, 2), 10);
+        Due.is("50 each", x.machineOf(0, 0) * 1000 + x.machineOf(1, 0), 50050);
+    }
+
+    private static void promise11Refusals() {
+        for (int number : new int[] {-1, 3, Integer.MIN_VALUE, Integer.MAX_VALUE}) {
+            Due.refuses("move(" + number + ", 0)", Due.NO_SUCH, MovesTest::withKeys, x -> x.move(number, 0));
+            Due.refuses("move(0, " + number + ")", Due.NO_SUCH, MovesTest::withKeys, x -> x.move(0, number));
+        }
+        Due.refuses("move without machines", Due.NO_SUCH, ShardHarbour::new, x -> x.move(0, 0));
+        Due.refuses("move(0, NONE)", Due.NO_SUCH, ShardHarbour::new, x -> x.move(0, ShardHarbour.NONE));
+        Due.refuses("it is on that", Due.NOT_NOW, MovesTest::withKeys, x -> x.move(0, 0));
+        Due.refuses("it moves there", Due.NOT_NOW, MovesTest::withMove, x -> x.move(0, 1));
+        Due.refuses("it moves elsewhere", Due.NOT_NOW, MovesTest::withMove, x -> x.move(0, 2));
+        Due.refuses("the other one is down", Due.NOT_NOW, () -> withOneDown(1), x -> x.move(0, 1));
+        Due.refuses("its own one is down", Due.NOT_NOW, () -> withOneDown(0), x -> x.move(0, 1));
+        Due.allows("a third one is down", () -> withOneDown(2), x -> x.move(0, 1));
+    }
+
+    private static ShardHarbour withOneDown(int machine) {
+        ShardHarbour x = withKeys();
+        x.down(machine, true);
+        return x;
+    }
+
+    private static ShardHarbour withMove() {
+        ShardHarbour x = withKeys();
+        x.move(0, 1);
+        x.pass(1);
+        return x;
+    }
+
+    private static void promise12CallOff() {
+        ShardHarbour x = withMove();
+        x.pass(1);
+        Due.is("callOff(0)", x.callOff(0), 60);
+        Due.is("rolled back", x.machineOf(1, 0), 0);
+        Due.is("nothing was copied", x.shard(0, 5), 0);
+        Due.is("it stays", x.shard(0, 2), 0);
+        Due.is("it does not move", x.shard(0, 3), ShardHarbour.NONE);
+        Due.is("it failed", x.moves(false), 1);
+        x.write(0, 2, 40);
+        Due.is("no copy is written", x.machineOf(1, 0), 0);
+        x.move(0, 1);
+        Due.is("at once", x.callOff(0), 0);
+        x.move(0, 1);
+        x.pass(1);
+        Due.is("it begins anew", x.shard(0, 5), 40);
+    }
+
+    private static void promise12Refusals() {
+        for (int number : new int[] {-1, 1, Integer.MIN_VALUE, Integer.MAX_VALUE}) {
+            Due.refuses("callOff(" + number + ")", Due.NO_SUCH, MovesTest::withMove, x -> x.callOff(number));
+        }
+        Due.refuses("it does not move", Due.NOT_NOW, MovesTest::withKeys, x -> x.callOff(0));
+        Due.refuses("without machines", Due.NOT_NOW, ShardHarbour::new, x -> x.callOff(0));
+        Due.refuses("it moved", Due.NOT_NOW, () -> {
+            ShardHarbour x = withMove();
+            x.pass(5);
+            return x;
+        }, x -> x.callOff(0));
+    }
+
+    private static void promise22Moves() {
+        ShardHarbour x = withMachines();
+        x.split(500);
+        x.move(0, 1);
+        x.move(1, 2);
+        Due.is("none done", x.moves(true), 0);
+        x.pass(1);
+        Due.is("two done", x.moves(true), 2);
+        Due.is("none failed", x.moves(false), 0);
+        x.write(500, 0, 100);
+        x.move(1, 0);
+        x.pass(1);
+        x.callOff(1);
+        x.move(1, 0);
+        x.down(0, true);
+        Due.is("two failed", x.moves(false), 2);
+        Due.is("two done", x.moves(true), 2);
+    }
+}
