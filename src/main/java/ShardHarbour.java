@@ -30,7 +30,7 @@ public final class ShardHarbour {
     private final Tenant[] tenants;
     private final Machine[] machines;
     private int machineCount;
-    /** Rows behind shardCount are spare ones, kept for the next split. */
+    /** Rows behind shardCount are spare ones, kept for the next split; none of them moves. */
     private final Shard[] shards;
     private int shardCount;
     private int hour;
@@ -127,7 +127,8 @@ public final class ShardHarbour {
             throw new IllegalArgumentException("the bytes are out of range");
         }
         Shard shard = shards[numberOfShardWith(key)];
-        if (!mayChange(shard) || !hasRoomFor(shard, key, bytes) || !hasQuotaFor(tenant, key, bytes)) {
+        if (!mayChange(shard) || !shard.home.hasRoomFor(bytes - bytesAt[key])
+                || !hasQuotaFor(tenant, key, bytes)) {
             throw new IllegalStateException("this can't be written now");
         }
         change(shard, key, tenant, bytes);
@@ -405,10 +406,6 @@ public final class ShardHarbour {
         return shard.home.isUp && changeCount < MOST_CHANGES;
     }
 
-    private boolean hasRoomFor(Shard shard, int key, int bytes) {
-        return shard.home.hasRoomFor(bytes - bytesAt[key]);
-    }
-
     private boolean hasQuotaFor(int tenant, int key, int bytes) {
         int given = tenantAt[key] == tenant ? bytesAt[key] : 0;
         return tenants[tenant].bytes - given + bytes <= tenants[tenant].quota;
@@ -463,7 +460,6 @@ public final class ShardHarbour {
         second.home = whole.home;
         second.bytes = bytesBetween(second.first, second.last);
         second.heat = whole.heat - whole.heat / 2;
-        second.aimAt(nowhere);
         whole.last = key - 1;
         whole.bytes -= second.bytes;
         whole.heat /= 2;
