@@ -1,4 +1,5 @@
 import java.util.function.Consumer;
+import java.util.function.ObjIntConsumer;
 import java.util.function.Supplier;
 
 /** Compares answers with those that are due, and ends a test program with exit code 1 if one was wrong. */
@@ -26,14 +27,28 @@ final class Due {
     }
 
     /**
-     * Makes the call on one of two objects that were made alike, and looks whether it throws exactly
-     * this exception and leaves that object as the other one.
+     * Makes the call on objects that were made alike, and looks whether it throws exactly this exception
+     * and whether that object tells of itself, and answers later calls, as one without the call.
      */
     static void refuses(String what, Class<? extends RuntimeException> kind,
             Supplier<ShardHarbour> made, Consumer<ShardHarbour> call) {
         ShardHarbour called = made.get();
         same(what, outcomeOf(called, call), kind.getName());
         same(what + ": the state behind it", State.of(called), State.of(made.get()));
+        ShardHarbour calledToo = made.get();
+        outcomeOf(calledToo, call);
+        same(what + ": later calls", Later.of(calledToo), Later.of(made.get()));
+    }
+
+    /** An argument: the last values that are good and the first ones that are not, on both sides. */
+    static void range(String what, int least, int most, Class<? extends RuntimeException> kind,
+            Supplier<ShardHarbour> made, ObjIntConsumer<ShardHarbour> call) {
+        for (int good : new int[] {least, most}) {
+            allows(what + " " + good, made, x -> call.accept(x, good));
+        }
+        for (int bad : new int[] {least - 1, most + 1, Integer.MIN_VALUE, Integer.MAX_VALUE}) {
+            refuses(what + " " + bad, kind, made, x -> call.accept(x, bad));
+        }
     }
 
     /** Makes a call that must not throw. */

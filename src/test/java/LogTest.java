@@ -2,10 +2,13 @@
 public final class LogTest {
     public static void main(String[] args) {
         promise20BillAnew();
-        promise20WrongInputs();
+        promise20EmptyLog();
+        promise20LongLog();
+        promise20Ranges();
         promise21WhereAnew();
+        promise21Edges();
         promise21SplitAndJoined();
-        promise21WrongInputs();
+        promise21Ranges();
         Due.end();
     }
 
@@ -51,19 +54,63 @@ public final class LogTest {
         billsAre(x, 90, 55, 0, 20400);
     }
 
-    private static void promise20WrongInputs() {
-        for (int tenant : new int[] {-1, 4, Integer.MIN_VALUE, Integer.MAX_VALUE}) {
-            Due.refuses("billAnew(" + tenant + ")", Due.NO_SUCH, LogTest::withMachines, x -> x.billAnew(tenant));
+    private static void promise20EmptyLog() {
+        ShardHarbour x = withMachines();
+        billsAre(x, 0, 0, 0, 0);
+        x.pass(200);
+        billsAre(x, 0, 0, 0, 0);
+        x.write(0, 0, 100);
+        x.take(0);
+        x.pass(200);
+        billsAre(x, 0, 0, 0, 0);
+        x.write(0, 0, 1);
+        x.write(0, 0, 2);
+        x.pass(1);
+        billsAre(x, 2, 0, 0, 0);
+    }
+
+    /** As many changes and hours as 512 calls leave room for. */
+    private static void promise20LongLog() {
+        ShardHarbour x = withMachines();
+        int want = 0;
+        for (int i = 0; i < 480; i++) {
+            x.write(i % 7, i % 2, 1 + i % 100);
         }
+        int bytes = x.tenant(0, 0);
+        for (int i = 0; i < 10; i++) {
+            x.pass(200);
+            want += bytes * 200;
+        }
+        Due.is("the last hour", x.hour(), 2000);
+        Due.is("bill", x.tenant(0, 2), want);
+        Due.is("bill anew", x.billAnew(0), want);
+    }
+
+    private static ShardHarbour withBills() {
+        ShardHarbour x = withMachines();
+        x.write(1, 0, 10);
+        x.write(2, 3, 20);
+        x.pass(2);
+        return x;
+    }
+
+    private static void promise20Ranges() {
+        Due.range("billAnew of", 0, 3, Due.NO_SUCH, LogTest::withBills, (x, tenant) -> x.billAnew(tenant));
+        Due.range("billAnew without machines of", 0, 3, Due.NO_SUCH, ShardHarbour::new,
+            (x, tenant) -> x.billAnew(tenant));
+        billsAre(withBills(), 20, 0, 0, 40);
     }
 
     private static void promise21WhereAnew() {
         ShardHarbour x = new ShardHarbour();
         Due.is("without machines", x.whereAnew(0), ShardHarbour.NONE);
+        Due.is("without machines", x.whereAnew(999), ShardHarbour.NONE);
         x.machine(1000);
+        Due.is("with one", x.whereAnew(0), 0);
         Due.is("with one", x.whereAnew(999), 0);
         x.machine(1000);
         x.machine(1000);
+        Due.is("with three", x.whereAnew(999), 0);
         x.split(300);
         x.write(400, 0, 60);
         x.move(1, 2);
@@ -71,14 +118,29 @@ public final class LogTest {
         Due.is("while it moves", x.whereAnew(400), 0);
         x.pass(1);
         Due.is("when it cut over", x.whereAnew(400), 2);
-        Due.is("its first key", x.whereAnew(300), 2);
-        Due.is("its last key", x.whereAnew(999), 2);
-        Due.is("the key ahead of it", x.whereAnew(299), 0);
         x.move(1, 1);
         x.callOff(1);
         Due.is("a move that failed", x.whereAnew(300), 2);
         x.down(2, true);
         Due.is("a machine that is down", x.whereAnew(300), 2);
+    }
+
+    private static void promise21Edges() {
+        ShardHarbour x = withMachines();
+        x.split(300);
+        x.split(600);
+        x.move(1, 2);
+        x.pass(1);
+        Due.is("the key ahead of its first one", x.whereAnew(299), 0);
+        Due.is("its first key", x.whereAnew(300), 2);
+        Due.is("its last key", x.whereAnew(599), 2);
+        Due.is("the key behind its last one", x.whereAnew(600), 0);
+        x.move(0, 1);
+        x.move(2, 1);
+        x.pass(1);
+        Due.is("the first of all keys", x.whereAnew(0), 1);
+        Due.is("the last of all keys", x.whereAnew(999), 1);
+        Due.is("those between are where they were", x.whereAnew(300) * 10 + x.whereAnew(599), 22);
     }
 
     private static void promise21SplitAndJoined() {
@@ -107,11 +169,9 @@ public final class LogTest {
         Due.is("a move that heat drew", x.whereAnew(555), 0);
     }
 
-    private static void promise21WrongInputs() {
-        for (int key : new int[] {-1, 1000, Integer.MIN_VALUE, Integer.MAX_VALUE}) {
-            Due.refuses("whereAnew(" + key + ")", Due.NO_SUCH, LogTest::withMachines, x -> x.whereAnew(key));
-            Due.refuses("whereAnew(" + key + ") without machines", Due.NO_SUCH, ShardHarbour::new,
-                x -> x.whereAnew(key));
-        }
+    private static void promise21Ranges() {
+        Due.range("whereAnew of", 0, 999, Due.NO_SUCH, LogTest::withMachines, (x, key) -> x.whereAnew(key));
+        Due.range("whereAnew without machines of", 0, 999, Due.NO_SUCH, ShardHarbour::new,
+            (x, key) -> x.whereAnew(key));
     }
 }
